@@ -1,4 +1,4 @@
-/** Promises 8 to 18: join, ask, answer, shown, unlike, dirty, dirtyAt, cached, isAlike, written, units. */
+/** Promises 8 to 18: from join to units. */
 public final class ClientsTest {
     private static final int[] NO_CLIENTS = {-1, 2, Integer.MAX_VALUE, Integer.MIN_VALUE};
 
@@ -24,38 +24,11 @@ public final class ClientsTest {
         Check.end();
     }
 
-    private static void dirtyIs(String what, DirtyTiles x, int client, int... tiles) {
-        Check.due(what + ": dirty", tiles.length, () -> x.dirty(client));
-        for (int index = 0; index < tiles.length; index++) {
-            int i = index;
-            Check.due(what + ": dirtyAt " + i, tiles[i], () -> x.dirtyAt(client, i));
-        }
-        Check.thrown(what + ": dirtyAt the end", Check.INDEX,
-                () -> x.dirtyAt(client, tiles.length));
-    }
-
-    private static DirtyTiles joined() {
-        DirtyTiles x = new DirtyTiles();
-        x.join(0);
-        return x;
-    }
-
-    /** Both clients have answered everything, and their caches have one tile of colour 0. */
-    private static DirtyTiles settled() {
-        DirtyTiles x = new DirtyTiles();
-        for (int client = 0; client < 2; client++) {
-            x.join(client);
-            x.ask(client, 300);
-            x.answer(client);
-        }
-        return x;
-    }
-
     private static void joining() {
         DirtyTiles x = new DirtyTiles();
         x.fill(0, 0, 16, 12, 5);
         Check.due("P8 join", 12, () -> x.join(1));
-        dirtyIs("P8 in the order of their numbers", x, 1, 0, 1, 2, 3, 4, 5, 6, 7, 8, 9, 10, 11);
+        Scenes.dirtyIs("P8 in the order of their numbers", x, 1, Scenes.ALL_TILES);
         Check.due("P8 empty cache", 0, () -> x.cached(1));
         Check.due("P8 alike", 1, () -> x.isAlike(1) ? 1 : 0);
         Check.due("P8 colour 0", 0, () -> x.shown(1, 3, 3));
@@ -68,7 +41,7 @@ public final class ClientsTest {
     }
 
     private static void joiningAnew() {
-        DirtyTiles x = settled();
+        DirtyTiles x = Scenes.settled();
         x.fill(0, 0, 16, 12, 5);
         x.ask(0, 300);
         x.answer(0);
@@ -76,7 +49,7 @@ public final class ClientsTest {
         x.ask(0, 300);
         int units = x.units();
         Check.due("P8 join anew", 12, () -> x.join(0));
-        dirtyIs("P8 anew", x, 0, 0, 1, 2, 3, 4, 5, 6, 7, 8, 9, 10, 11);
+        Scenes.dirtyIs("P8 anew", x, 0, Scenes.ALL_TILES);
         Check.thrown("P8 message is gone", Check.STATE, () -> x.answer(0));
         Check.due("P8 cache is gone", 0, () -> x.cached(0));
         Check.due("P8 alike", 1, () -> x.isAlike(0) ? 1 : 0);
@@ -91,7 +64,7 @@ public final class ClientsTest {
         // All tiles have the colour 0: the first takes 3 units, each later one 2.
         int[][] cases = {{0, 0}, {2, 0}, {3, 1}, {4, 1}, {5, 2}, {24, 11}, {25, 12}, {300, 12}};
         for (int[] each : cases) {
-            DirtyTiles x = joined();
+            DirtyTiles x = Scenes.joined();
             Check.due("P9 budget " + each[0], each[1], () -> x.ask(0, each[0]));
             Check.due("P9 the others stay dirty", 12 - each[1], () -> x.dirty(0));
             Check.due("P9 cache of the client as it was", 0, () -> x.cached(0));
@@ -107,24 +80,24 @@ public final class ClientsTest {
     }
 
     private static void askingEndsAtTheFirstThatIsTooDear() {
-        DirtyTiles x = settled();
+        DirtyTiles x = Scenes.settled();
         x.fill(0, 0, 4, 4, 1);
         for (int cell = 0; cell < 16; cell++) {
             x.fill(4 + cell % 4, cell / 4, 1, 1, cell);
         }
         x.fill(8, 0, 4, 4, 2);
-        dirtyIs("P9 ahead", x, 0, 0, 1, 2);
+        Scenes.dirtyIs("P9 ahead", x, 0, 0, 1, 2);
         Check.due("P9 cheaper tiles don't overtake", 1, () -> x.ask(0, 19));
-        dirtyIs("P9 after it", x, 0, 1, 2);
+        Scenes.dirtyIs("P9 after it", x, 0, 1, 2);
         x.answer(0);
         Check.due("P9 the dear one is the first now", 0, () -> x.ask(0, 16));
         Check.due("P9 it just fits", 1, () -> x.ask(0, 17));
-        dirtyIs("P9 in the end", x, 0, 2);
-        dirtyIs("P9 the other client", x, 1, 0, 1, 2);
+        Scenes.dirtyIs("P9 in the end", x, 0, 2);
+        Scenes.dirtyIs("P9 the other client", x, 1, 0, 1, 2);
     }
 
     private static void askingWithNothingDirty() {
-        DirtyTiles x = settled();
+        DirtyTiles x = Scenes.settled();
         int units = x.units();
         Check.due("P9 nothing to tell", 0, () -> x.ask(0, 300));
         Check.thrown("P9 nothing to answer", Check.STATE, () -> x.answer(0));
@@ -154,7 +127,7 @@ public final class ClientsTest {
     }
 
     private static void answering() {
-        DirtyTiles x = joined();
+        DirtyTiles x = Scenes.joined();
         x.fill(0, 0, 16, 12, 9);
         x.ask(0, 7);
         Check.due("P10 not ahead of the answer", 0, () -> x.shown(0, 0, 0));
@@ -167,15 +140,15 @@ public final class ClientsTest {
     }
 
     private static void answeringBringsTheCellsOfTheMessage() {
-        DirtyTiles x = settled();
+        DirtyTiles x = Scenes.settled();
         x.fill(4, 4, 4, 4, 7);
         x.ask(0, 300);
         x.fill(4, 4, 4, 4, 8);
-        dirtyIs("P10 dirty again", x, 0, 5);
+        Scenes.dirtyIs("P10 dirty again", x, 0, 5);
         x.answer(0);
         Check.due("P10 as it was when asked", 7, () -> x.shown(0, 4, 4));
         Check.due("P10 unlike", 16, () -> x.unlike(0));
-        dirtyIs("P10 still dirty", x, 0, 5);
+        Scenes.dirtyIs("P10 still dirty", x, 0, 5);
         Check.due("P10 not cached", 103, () -> x.way(0, 5));
         x.ask(0, 300);
         x.answer(0);
@@ -251,24 +224,24 @@ public final class ClientsTest {
     }
 
     private static void dirtyKeepsItsPlace() {
-        DirtyTiles x = settled();
+        DirtyTiles x = Scenes.settled();
         x.fill(12, 8, 1, 1, 1);
         x.fill(4, 4, 8, 1, 1);
         x.fill(0, 0, 1, 1, 1);
-        dirtyIs("P13 in the order of drawing", x, 0, 11, 5, 6, 0);
+        Scenes.dirtyIs("P13 in the order of drawing", x, 0, 11, 5, 6, 0);
         x.fill(0, 0, 16, 12, 2);
-        dirtyIs("P13 those that were dirty keep their places", x, 0,
+        Scenes.dirtyIs("P13 those that were dirty keep their places", x, 0,
                 11, 5, 6, 0, 1, 2, 3, 4, 7, 8, 9, 10);
         x.ask(0, 5);
-        dirtyIs("P13 two of them told", x, 0, 6, 0, 1, 2, 3, 4, 7, 8, 9, 10);
+        Scenes.dirtyIs("P13 two of them told", x, 0, 6, 0, 1, 2, 3, 4, 7, 8, 9, 10);
         x.fill(4, 4, 1, 1, 9);
-        dirtyIs("P13 dirty again at the end", x, 0, 6, 0, 1, 2, 3, 4, 7, 8, 9, 10, 5);
-        dirtyIs("P13 the other client", x, 1, 11, 5, 6, 0, 1, 2, 3, 4, 7, 8, 9, 10);
+        Scenes.dirtyIs("P13 dirty again at the end", x, 0, 6, 0, 1, 2, 3, 4, 7, 8, 9, 10, 5);
+        Scenes.dirtyIs("P13 the other client", x, 1, 11, 5, 6, 0, 1, 2, 3, 4, 7, 8, 9, 10);
         // Drawn back to what the client shows, a tile stays dirty.
-        DirtyTiles y = settled();
+        DirtyTiles y = Scenes.settled();
         y.fill(0, 0, 1, 1, 1);
         y.fill(0, 0, 1, 1, 0);
-        dirtyIs("P13 drawn back", y, 1, 0);
+        Scenes.dirtyIs("P13 drawn back", y, 1, 0);
     }
 
     private static void dirtyRefuses() {
@@ -311,7 +284,7 @@ public final class ClientsTest {
             Check.due("P15 cached", Math.min(6, t), () -> x.cached(0));
             Check.due("P16 alike again", 1, () -> x.isAlike(0) ? 1 : 0);
         }
-        DirtyTiles y = settled();
+        DirtyTiles y = Scenes.settled();
         Check.due("P15 tiles with the same cells are one", 1, () -> y.cached(0));
         y.fill(0, 0, 1, 1, 1);
         y.fill(0, 0, 1, 1, 0);
@@ -329,7 +302,7 @@ public final class ClientsTest {
     }
 
     private static void cacheMovesToTheFront() {
-        DirtyTiles x = settled();
+        DirtyTiles x = Scenes.settled();
         for (int colour = 1; colour <= 5; colour++) {
             tell(x, colour, 103);
         }
@@ -400,7 +373,7 @@ public final class ClientsTest {
     }
 
     private static void slowClientGetsTheLastPicture() {
-        DirtyTiles x = settled();
+        DirtyTiles x = Scenes.settled();
         for (int step = 0; step < 40; step++) {
             x.fill(step % 16, step % 12, 1, 1, step % 15 + 1);
             x.copy(0, 0, 16, 12, step % 3 - 1, step % 5 - 2);

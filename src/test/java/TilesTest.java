@@ -11,14 +11,6 @@ public final class TilesTest {
         Check.end();
     }
 
-    /** Paints a tile from 16 signs, a letter for each colour from 'a' on. */
-    private static void paint(DirtyTiles x, int tile, String cells) {
-        for (int place = 0; place < 16; place++) {
-            x.fill(tile % 4 * 4 + place % 4, tile / 4 * 4 + place / 4, 1, 1,
-                    cells.charAt(place) - 'a');
-        }
-    }
-
     private static void plainTile() {
         DirtyTiles x = new DirtyTiles();
         x.join(0);
@@ -33,7 +25,7 @@ public final class TilesTest {
     private static void everyTileByItself() {
         for (int tile = 0; tile < 12; tile++) {
             DirtyTiles x = new DirtyTiles();
-            paint(x, tile, "abcdefghijklmnop");
+            Scenes.paint(x, tile, Scenes.ALL_COLOURS);
             for (int other = 0; other < 12; other++) {
                 int o = other;
                 Check.due("P5 colours of " + o, o == tile ? 16 : 1, () -> x.colours(o));
@@ -68,7 +60,7 @@ public final class TilesTest {
     private static void tile(String cells, int colours, int runs, int way) {
         DirtyTiles x = new DirtyTiles();
         x.join(1);
-        paint(x, 6, cells);
+        Scenes.paint(x, 6, cells);
         Check.due("P5 colours of " + cells, colours, () -> x.colours(6));
         Check.due("P6 runs of " + cells, runs, () -> x.runs(6));
         Check.due("P7 way of " + cells, way, () -> x.way(1, 6));
@@ -91,8 +83,8 @@ public final class TilesTest {
         DirtyTiles x = new DirtyTiles();
         x.join(0);
         x.join(1);
-        paint(x, 0, "abcdefghijklmnop");
-        paint(x, 11, "abcdefghijklmnop");
+        Scenes.paint(x, 0, Scenes.ALL_COLOURS);
+        Scenes.paint(x, 11, Scenes.ALL_COLOURS);
         x.ask(0, 17);
         Check.due("P7 the tile itself is cached", 2, () -> x.way(0, 0));
         Check.due("P7 a tile with the same cells", 2, () -> x.way(0, 11));

@@ -7,6 +7,7 @@ final class Check {
     static final String STATE = "IllegalStateException";
     static final String INDEX = "IndexOutOfBoundsException";
 
+    private static String subject = "";
     private static int wrong = 0;
     private static int looked = 0;
 
@@ -15,6 +16,11 @@ final class Check {
 
     interface Call {
         long answer();
+    }
+
+    /** Tells what the answers looked at from now on are about; it is printed with each wrong one. */
+    static void about(String what) {
+        subject = what + ": ";
     }
 
     /** Returns the answer as a text, or the simple name of what was thrown. */
@@ -44,7 +50,7 @@ final class Check {
         looked++;
         if (!want.equals(got)) {
             wrong++;
-            System.out.println(what + " answered " + got + ", due is " + want);
+            System.out.println(subject + what + " answered " + got + ", due is " + want);
         }
     }
 
