@@ -15,6 +15,7 @@ final class EdgesOfCounts {
         cachedThrowsOutOfRange();
         cachedThrowsNotJoined();
         alikeSameTilesInTheSameOrder();
+        alikeInAllPlacesButOne();
         alikeClient();
         alikeReturns();
         alikeThrowsOutOfRange();
@@ -105,6 +106,43 @@ final class EdgesOfCounts {
         Check.due("six at the client", 6, () -> x.cached(0));
         x.answer(0);
         Check.due("six at both", 1, () -> alike(x, 0));
+    }
+
+    private static void alikeInAllPlacesButOne() {
+        Sentences.of(ALIKE, "have the same tiles in the same order");
+        // The own cache is 5 4 3 2 1 0 with five colours told, and 1 0 with one.
+        alikeWithAMessageOf("the first is another: 6 4 3 2 1 0", 5, 0, 1, 2, 3, 4, 6);
+        alikeWithAMessageOf("the last is another: 5 4 3 2 1 6", 5, 6, 1, 2, 3, 4, 5);
+        alikeWithAMessageOf("one within is another: 5 4 6 2 1 0", 5, 0, 1, 2, 6, 4, 5);
+        alikeWithAMessageOf("the first two have changed places: 4 5 3 2 1 0", 5, 4);
+        alikeWithAMessageOf("the last two have changed places: 5 4 3 2 0 1", 5, 0, 2, 3, 4, 5);
+        alikeWithAMessageOf("one more at the end: 1 0 6", 1, 6, 0, 1);
+        alikeWithAMessageOf("one more at the front: 6 1 0", 1, 6);
+        DirtyTiles x = withAMessageOf(5, 0, 1, 2, 3, 4, 5);
+        Check.due("all brought to the front, in the order that they had", 1, () -> alike(x, 0));
+        Check.due("though the message is on its way", 6, () -> x.answer(0));
+    }
+
+    private static void alikeWithAMessageOf(String what, int coloursTold, int... colours) {
+        DirtyTiles x = withAMessageOf(coloursTold, colours);
+        Check.due(what, 0, () -> alike(x, 0));
+        Check.due(what + ", answer", colours.length, () -> x.answer(0));
+        Check.due(what + ", answered", 1, () -> alike(x, 0));
+    }
+
+    /** The colours from 0 on were told one by one; then tiles of other colours are on their way. */
+    private static DirtyTiles withAMessageOf(int coloursTold, int... colours) {
+        DirtyTiles x = Scenes.settled();
+        for (int colour = 1; colour <= coloursTold; colour++) {
+            Scenes.tell(x, colour);
+        }
+        for (int index = 0; index < colours.length; index++) {
+            // Another colour in between, so that the tile is dirty in any case.
+            Scenes.fillTile(x, index + 1, 15);
+            Scenes.fillTile(x, index + 1, colours[index]);
+        }
+        x.ask(0, 300);
+        return x;
     }
 
     private static void alikeClient() {
